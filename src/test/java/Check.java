@@ -1,7 +1,14 @@
 import java.nio.charset.StandardCharsets;
+import java.util.Arrays;
 
 /** What the tests share: answers compared, texts put on the tape. */
 final class Check {
+    /** A crown with two provinces, three tricks and two watchers, at whose answers the tests look. */
+    static final String FAIR = "need 60 debt 100 rate 10; stores west 50 yields 20; stores east 30 yields 10;"
+        + " trick dove takes 40 from west look 3; trick egg takes 30 from east look 7;"
+        + " trick silk takes 25 from west look 1; watch abe seat 2 glass 4; watch bea seat 8 glass 1;"
+        + " sees look*glass+times*10-seat; loses takes/5+times; belief 40; boys 50;";
+
     private final String test;
     private int calls = 0;
     private int wrong = 0;
@@ -78,19 +85,38 @@ final class Check {
         return x;
     }
 
-    /** crown() has this FAULT at this place, and is refused. */
-    void crownFault(String text, int fault, int place) {
+    /** crown() has this FAULT where the mark ^ stands (it is not part of the text), and is refused. */
+    void crownFault(int fault, String marked) {
+        String text = marked.replace("^", "");
         EmptyHat x = new EmptyHat();
         due("crown() of " + text, crown(x, text), -1);
-        due("fault(0) of " + text, x.fault(0), fault);
-        due("fault(1) of " + text, x.fault(1), place);
-        due("status(1) of " + text, x.status(1), 1);
+        due("fault(0) of " + marked, x.fault(0), fault);
+        due("fault(1) of " + marked, x.fault(1), marked.indexOf('^'));
+        due("status(1) of " + marked, x.status(1), 1);
+        due("has(0) of " + marked, x.has(0), 0);
     }
 
-    /** ask() has this FAULT at this place. */
-    void askFault(EmptyHat x, String text, int fault, int place) {
+    /** ask() has this FAULT where the mark ^ stands. */
+    void askFault(EmptyHat x, int fault, String marked) {
+        String text = marked.replace("^", "");
         due("ask() of " + text, ask(x, text), EmptyHat.NOTHING);
-        due("fault(0) of " + text, x.fault(0), fault);
-        due("fault(1) of " + text, x.fault(1), place);
+        due("fault(0) of " + marked, x.fault(0), fault);
+        due("fault(1) of " + marked, x.fault(1), marked.indexOf('^'));
+    }
+
+    /** The bytes of an image, its last byte put behind them. */
+    static int[] imageOf(int... ahead) {
+        int[] all = Arrays.copyOf(ahead, ahead.length + 1);
+        int c = 97;
+        for (int b : ahead) {
+            c = (3 * c + b) % 251;
+        }
+        all[ahead.length] = c;
+        return all;
+    }
+
+    static boolean on(EmptyHat x, int... bytes) {
+        tape(x, bytes);
+        return x.on();
     }
 }
