@@ -11,6 +11,7 @@ public final class AheadTest {
         laterYears();
         curtains();
         drops();
+        worths();
         pairs();
         lastYears();
         afterActs();
@@ -79,6 +80,15 @@ public final class AheadTest {
         }
     }
 
+    /** A hundred of debt weigh as much as one of BELIEF. */
+    private static void worths() {
+        for (int takes = 99; takes <= 102; takes++) {
+            EmptyHat x = Check.crowned("need 1 debt 500 rate 0;stores p 900 yields 0;trick t takes " + takes
+                + " from p look 0;watch v seat 0 glass 0;watch w seat 0 glass 0;sees 50;loses 1;");
+            CHECK.due("drop(1) by " + takes, x.drop(1), takes > 101 ? 1 : 0);
+        }
+    }
+
     private static void pair(EmptyHat x, int first, int second, int debt, int belief) {
         CHECK.due("both(3)", x.both(3), belief);
         CHECK.due("both(2)", x.both(2), debt);
@@ -106,6 +116,18 @@ public final class AheadTest {
         // The curtain falls by the first show: the second one is empty.
         pair(Check.crowned("need 0 debt 90 rate 0;stores p 30 yields 0;trick t takes 30 from p look 9;"
             + "watch v seat 0 glass 0;watch w seat 0 glass 0;sees look*9;loses 50;"), 0, 1, 60, 0);
+        // The second sight is that of a trick shown once more, in the next YEAR.
+        String often = "need 0 debt 90 rate 0;stores p 90 yields 0;trick t takes 10 from p look 0;"
+            + "trick u takes 10 from p look 0;watch v seat 0 glass 0;watch w seat 0 glass 0;";
+        pair(Check.crowned(often + "sees times*50;"), 3, 3, 50, 30);
+        pair(Check.crowned(often + "sees times/2*50;"), 3, 3, 50, 50);
+        pair(Check.crowned(often + "sees year*50;"), 3, 3, 50, 30);
+        pair(Check.crowned(often + "sees year/2*50;"), 3, 3, 50, 50);
+        pair(Check.crowned(often + "sees (1-times)*50;"), 0, 3, 70, 30);
+        // Debt that can't grow is the least debt, too.
+        EmptyHat x = Check.crowned("need 9999 debt 0 rate 99;");
+        x.years(9);
+        pair(x, 0, 0, 99999, 50);
         CHECK.due("without a crown", new EmptyHat().both(0), -1);
         // Sight grows by the YEAR: what is not seen through now would be next YEAR.
         pair(Check.crowned("need 0 debt 9 rate 0;stores p 9 yields 0;trick t takes 9 from p look 0;"

@@ -40,6 +40,10 @@ public final class CountTest {
         fits(x, 0, 0, 0);
         CHECK.due("west 65535", Check.count(x, 0, 255, 255), 1);
         fits(x, 0, 0, 0);
+        EmptyHat y = Check.crowned(Check.FAIR);
+        fits(y, 8, 0, 7);
+        Check.count(y, 0, 0, 5, 1, 0, 10);
+        fits(y, 1, 7, 7);
         CHECK.due("16 rows", Check.count(x, new int[48]), 16);
         CHECK.due("has(9)", x.has(9), 16);
         fits(x, 0, 0, 0);
@@ -107,6 +111,13 @@ public final class CountTest {
         x = Check.crowned("need 0 debt 0 rate 0;stores p 9 yields 0;trick a takes 3 from p look 0;"
             + "trick b takes 3 from p look 0;");
         CHECK.due("where(1) of two alike", x.where(1), 2);
+        StringBuilder b = new StringBuilder("need 0 debt 0 rate 0;stores p 0 yields 0;");
+        for (char c = 'a'; c < 'g'; c++) {
+            b.append("trick t").append(c).append(" takes 1 from p look 0;");
+        }
+        x = Check.crowned(b.toString());
+        CHECK.due("where(0) of nothing", x.where(0), 0);
+        CHECK.due("where(1) of nothing", x.where(1), 64);
         x = Check.crowned("need 0 debt 0 rate 0;");
         CHECK.due("where(0) without provinces", x.where(0), -1);
         CHECK.due("shows(0) without provinces", x.shows(0), 1);

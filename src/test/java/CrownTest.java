@@ -141,6 +141,7 @@ public final class CrownTest {
     private static void namesThatCannotBe() {
         CHECK.crownFault(1, HEAD + "stores ^look 1 yields 1;");
         CHECK.crownFault(1, HEAD + "stores ^or 1 yields 1;");
+        CHECK.crownFault(1, HEAD + "stores ^need 1 yields 1;");
         CHECK.crownFault(1, HEAD + "stores ^max 1 yields 1;");
         CHECK.crownFault(1, HEAD + "stores ^stores 1 yields 1;");
         CHECK.crownFault(1, HEAD + "stores abcdef^g 1 yields 1;");
@@ -166,7 +167,7 @@ public final class CrownTest {
         // The words of questions alone are no OWN WORDS.
         CHECK.due("free words", Check.crown(new EmptyHat(), HEAD + "stores first 1 yields 1;stores often 1 yields 1;"
             + "trick last takes 1 from often look 1;watch total seat 1 glass 1;watch most seat 1 glass 1;"
-            + "watch least seat 1 glass 1;watch s seat 1 glass 1;watch ss seat 1 glass 1;"), 9);
+            + "watch least seat 1 glass 1;watch s seat 1 glass 1;watch z seat 1 glass 1;"), 9);
     }
 
     private static void sums() {
@@ -233,6 +234,8 @@ public final class CrownTest {
         CHECK.crownFault(4, HEAD + "loses 1+(1*(1+(1*(1+(1*(1+^(1)))))));");
         CHECK.crownFault(4, HEAD + "sees min(1,(((((^(1)))))));");
         CHECK.crownFault(4, HEAD + "sees ((((((max^(1,2)))))));");
+        CHECK.crownFault(4, HEAD + "sees min((((((^(1)))))),1);");
+        CHECK.crownFault(4, HEAD + "sees min(1,2)+min((((((^(1");
         CHECK.crownFault(1, HEAD + "sees ((((((1^(");
         CHECK.crownFault(1, HEAD + "sees ((((((min ^1");
         CHECK.due("six open", Check.crown(new EmptyHat(), HEAD + "sees ((((((1))))))+((((min(1,(2))))));"), 2);
@@ -280,6 +283,11 @@ public final class CrownTest {
         CHECK.due("boys at last 100", x.chance(100), 100);
         x = Check.crowned(PLACE + "trick t takes 1 from s look 1;");
         CHECK.due("boys without", x.chance(100), 0);
+        for (int seed = 0; seed < 400; seed++) {
+            Check.crown(x, PLACE + "trick t takes 1 from s look 1;");
+            x.seed(seed * 1001);
+            CHECK.due("boys without, seed " + seed, x.chance(1), 0);
+        }
     }
 
     private static void faultLeavesAll() {
@@ -327,6 +335,20 @@ public final class CrownTest {
         CHECK.due("the same crown again", Check.crown(x, Check.FAIR), 12);
         CHECK.due("has(3)", x.has(3), 0);
         CHECK.due("trick(0, 4)", x.trick(0, 4), 0);
+        // Sums of crowns that have gone do not come back.
+        String plain = PLACE + "trick t takes 1 from s look 1;watch w seat 1 glass 7;watch v seat 1 glass 5;";
+        for (int i = 0; i < 4; i++) {
+            Check.crown(x, plain + "sees 77;loses 33;belief 40;");
+            CHECK.due("sight(0, 0)", x.sight(0, 0), 77);
+            x.show(1);
+            CHECK.due("BELIEF", x.has(5), 7);
+            Check.crown(x, plain);
+            CHECK.due("sight(0, 0) by glass", x.sight(0, 0), 7);
+            Check.on(x, Check.imageOf(0, 0, 0, 0, 0, 50, 0, 9, 0, 0, 0, 99, 1, 1));
+            x.show(1);
+            CHECK.due("BELIEF less 10", x.has(5), 40);
+            Check.crown(x, HEAD);
+        }
         CHECK.due("a crown of nothing", Check.crown(x, HEAD), 1);
         CHECK.due("has(0)", x.has(0), 0);
         CHECK.due("has(7)", x.has(7), 0);

@@ -51,7 +51,10 @@ public final class QuestionTest {
         asks(x, "total year", 0);
         asks(x, "total 2", 6);
         asks(x, "most sight", 26);
+        asks(x, "most takes", 40);
         asks(x, "least sight", 2);
+        asks(x, "least left", 30);
+        asks(x, "least number", 0);
         asks(x, "most 0-takes", -25);
         asks(x, "least takes-30", -5);
         asks(x, "total seen 0", 38);
@@ -59,6 +62,10 @@ public final class QuestionTest {
         asks(x, "total seen 2", 0);
         asks(x, "total seen 9999", 0);
         asks(x, "total seen (0-1)", 0);
+        for (int w = 2; w < 45; w++) {
+            asks(x, "total seen " + w, 0);
+            asks(x, "total seen (1-" + w + ")", 0);
+        }
         asks(x, "total seen number", 10);
         asks(x, "total seen 0+1", 41);
         asks(x, "total seen seen 1", 38);

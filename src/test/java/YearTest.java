@@ -88,6 +88,8 @@ public final class YearTest {
         best(tricks(100, one, 100, 0, 5, 0), 1, 100, 0);
         best(tricks(0, one, 5, 0), 0, 0, 0);
         best(tricks(1, one), 0, 0, 0);
+        // The yields have come.
+        best(Check.crowned("need 5 debt 0 rate 0;stores p 0 yields 7;trick t takes 9 from p look 0;"), 1, 7, 0);
     }
 
     private static void appearing() {
