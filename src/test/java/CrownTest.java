@@ -284,7 +284,7 @@ public final class CrownTest {
         x = Check.crowned(PLACE + "trick t takes 1 from s look 1;");
         CHECK.due("boys without", x.chance(100), 0);
         for (int seed = 0; seed < 400; seed++) {
-            Check.crown(x, PLACE + "trick t takes 1 from s look 1;");
+            x = Check.crowned(PLACE + "trick t takes 1 from s look 1;");
             x.seed(seed * 1001);
             CHECK.due("boys without, seed " + seed, x.chance(1), 0);
         }

@@ -28,6 +28,7 @@ final class EdgesAhead {
         x.chance(3);
         y.chance(3);
         Edge.same("the seed has not moved", Edge.all(x), Edge.all(y));
+        anew();
 
         x = Check.crowned("need 1 debt 0 rate 0;");
         Edge.says(III, "(60 at most, not beyond YEAR 999).");
@@ -42,6 +43,35 @@ final class EdgesAhead {
             Edge.due("drop(" + most + ") in YEAR " + year, x.drop(most), 0);
             Edge.due("drop(" + (most + 1) + ") in YEAR " + year, x.drop(most + 1), -1);
         }
+    }
+
+    private interface Change {
+        void on(EmptyHat x);
+    }
+
+    /** What is ahead is worked out anew behind whatever changes. */
+    private static void anew() {
+        Change[] changes = {x -> Check.crown(x, Check.FAIR), x -> x.show(1), x -> x.sit(0, 0), x -> x.move(0, 1, 5),
+            x -> x.years(1), x -> x.chance(2), x -> x.undo(), x -> x.undo(),
+            x -> Check.on(x, Check.imageOf(0, 9, 0, 1, 4, 33, 0, 99, 0, 98, 0, 1, 0, 9, 0, 1, 0, 8, 0, 1, 0, 7, 4, 5)),
+            x -> Check.crown(x, Check.FAIR.replace("debt 100", "debt 77"))};
+        EmptyHat asked = new EmptyHat();
+        for (int i = 0; i < changes.length; i++) {
+            changes[i].on(asked);
+            EmptyHat silent = new EmptyHat();
+            for (int k = 0; k <= i; k++) {
+                changes[k].on(silent);
+            }
+            Edge.same("ahead behind change " + i, ahead(asked), ahead(silent));
+        }
+    }
+
+    private static String ahead(EmptyHat x) {
+        StringBuilder b = new StringBuilder();
+        for (int what = 0; what < 4; what++) {
+            b.append(x.both(what)).append(' ').append(x.later(0, what)).append(' ').append(x.later(2, what)).append(' ');
+        }
+        return b.append(x.curtain()).append(' ').append(x.drop(4)).toString();
     }
 
     private static void pair(String text, int first, int second, int debt, int belief) {
@@ -62,12 +92,24 @@ final class EdgesAhead {
         // What the second YEAR yields is not there in the first one.
         pair("need 0 debt 9 rate 0;stores p 0 yields 4;trick t takes 9 from p look 0;", 0, 1, 1, 50);
         pair("need 9999 debt 9999 rate 99;", 0, 0, 99092, 50);
+        // SIGHT in the next YEAR, of TRICKS shown once more.
+        String often = "need 0 debt 90 rate 0;stores p 90 yields 0;trick t takes 10 from p look 0;"
+            + "trick u takes 10 from p look 0;" + two;
+        pair(often + "sees times*50;", 3, 3, 50, 30);
+        pair(often + "sees times/2*50;", 3, 3, 50, 50);
+        pair(often + "sees year*50;", 3, 3, 50, 30);
+        pair(often + "sees year/2*50;", 3, 3, 50, 50);
+        pair(often + "sees (1-times)*50;", 0, 3, 70, 30);
+        pair(often + "sees (1-times)*year*50;", 3, 3, 50, 50);
 
         Edge.says(III, "of like ones BELIEF most,");
         pair("need 0 debt 7 rate 0;stores p 7 yields 0;trick t takes 7 from p look 9;trick u takes 7 from p look 0;"
             + two + "sees look*9;", 0, 2, 0, 50);
         pair("need 0 debt 7 rate 0;stores p 7 yields 0;trick t takes 7 from p look 9;" + two
             + "sees look*9*year;loses 50;", 1, 0, 0, 50);
+        // Each is seen through by one SHOW; in YEAR 0 they lose 5 and 10, in YEAR 1 15 and 20.
+        pair("need 0 debt 90 rate 0;stores p 90 yields 0;trick t takes 20 from p look 1;"
+            + "trick u takes 10 from p look 2;" + two + "sees 50;loses year*10+look*5;", 3, 0, 60, 35);
 
         Edge.says(III, "of like ones the first pair (the least bits of the first, then of the second SHOW;");
         pair("need 0 debt 0 rate 0;stores p 9 yields 9;trick t takes 9 from p look 0;", 0, 0, 0, 50);
@@ -82,6 +124,13 @@ final class EdgesAhead {
         Edge.says(III, "the second one of TRICKS not SEEN THROUGH then).");
         pair("need 0 debt 90 rate 0;stores p 90 yields 0;trick t takes 20 from p look 9;"
             + "trick u takes 10 from p look 0;" + two + "sees look*9;", 2, 3, 50, 40);
+        // Nor is the first one of others: t would pay it all.
+        EmptyHat x = Check.crowned("need 0 debt 9 rate 0;stores p 99 yields 0;trick t takes 9 from p look 0;"
+            + "trick u takes 1 from p look 0;");
+        Check.on(x, Check.imageOf(0, 0, 0, 0, 9, 50, 0, 99, 0, 0, 0, 100, 0, 0, 0, 0));
+        Edge.due("both(0), t SEEN THROUGH", x.both(0), 2);
+        Edge.due("both(1), t SEEN THROUGH", x.both(1), 2);
+        Edge.due("both(2), t SEEN THROUGH", x.both(2), 7);
         // By the rate the first YEAR is the better one for t; then it is gone.
         pair("need 0 debt 100 rate 50;stores p 90 yields 0;trick t takes 20 from p look 9;" + two + "sees look*9;",
             1, 0, 180, 40);
@@ -158,6 +207,10 @@ final class EdgesAhead {
         Edge.due("where(1)", x.where(1), 2);
         x = Check.crowned("need 0 debt 0 rate 0;stores o 9 yields 0;stores p 9 yields 0;");
         Edge.due("where(0) without TRICKS", x.where(0), 0);
+        EmptyHat six = Check.crowned("need 0 debt 0 rate 0;stores a 1 yields 0;stores b 1 yields 0;stores c 1 yields 0;"
+            + "stores d 1 yields 0;stores e 1 yields 0;stores f 1 yields 0;trick t takes 1 from f look 0;");
+        Edge.due("where(0) of six: the last", six.where(0), 5);
+        Edge.due("where(1) of six", six.where(1), 1);
         Edge.due("where(1) without TRICKS", x.where(1), 1);
     }
 
@@ -181,6 +234,12 @@ final class EdgesAhead {
         Edge.due("each of no TRICKS", x.watch(99), 0);
         x = Check.crowned(NEAR);
         Edge.due("by none", x.watch(0), -1);
+        x = Check.crowned("need 0 debt 0 rate 0;stores p 9 yields 0;trick t takes 1 from p look 1;sees glass*11;"
+            + "watch a seat 0 glass 1;watch b seat 0 glass 2;watch c seat 0 glass 3;watch d seat 0 glass 4;"
+            + "watch e seat 0 glass 9;");
+        Edge.due("watch(45) of five: the last", x.watch(45), 16);
+        Edge.due("watch(99) of five: the last", x.watch(99), 16);
+        Edge.due("watch(44) of five", x.watch(44), 8);
 
         x = Check.crowned(NEAR + "watch a seat 1 glass 0;watch b seat 2 glass 0;watch c seat 1 glass 2;"
             + "watch d seat 2 glass 2;");

@@ -66,10 +66,7 @@ final class EdgesOfCalls {
         }
         Edge.due("the 512th call", x.status(4), 511);
         x = new EmptyHat();
-        for (int i = 1; i <= 80; i++) {
-            x.feed(0, 0, 0, 0, 0);
-        }
-        for (int i = 81; i < 512; i++) {
+        for (int i = 1; i < 512; i++) {
             x.feed(0, 0, 0, 0, 0);
         }
         Edge.due("the 512th call", x.status(0), 431);
@@ -146,6 +143,17 @@ final class EdgesOfCalls {
         Edge.due("end(0)", x.end(0), true);
         Edge.due("feed", x.feed(0, 0, 0, 0, 0), 20);
         Edge.due("status(0)", x.status(0), 0);
+        // What was behind them is not read, were it of the same word or number.
+        EmptyHat cut = Check.crowned(FAIR);
+        Check.tape(cut, "total 55");
+        Edge.due("end(7)", cut.end(7), true);
+        Edge.due("ask() of total 5", cut.ask(), 15);
+        Check.tape(cut, "often allall");
+        Edge.due("end(9)", cut.end(9), true);
+        Edge.due("ask() of often all", cut.ask(), 3);
+        Check.tape(cut, "total 5+5");
+        Edge.due("end(7)", cut.end(7), true);
+        Edge.due("ask() of total 5", cut.ask(), 15);
 
         Edge.says("Promise 3", "false, refused (0), if it has not so many,");
         Edge.due("end(21) of 20", x.end(21), false);
@@ -161,7 +169,7 @@ final class EdgesOfCalls {
         Edge.due("status(0)", x.status(0), 4);
     }
 
-    /** FAIR behind years with boys: something is kept, counted, and can be undone. */
+    /** FAIR behind years: something is kept, counted, and can be undone. */
     private static EmptyHat aged() {
         EmptyHat x = Check.crowned(FAIR);
         x.years(7);
@@ -541,6 +549,14 @@ final class EdgesOfCalls {
         EmptyHat none = Check.crowned("need 1 debt 0 rate 0;");
         Edge.due("both(0) without TRICKS", none.both(0), 0);
         Edge.due("both(2) without TRICKS", none.both(2), 2);
+        pair(small(0, 9, 50, 9, 0, 99), 0, 1, 6, 40);
+        pair(small(0, 9, 50, 9, 0, 100), 0, 0, 11, 50);
+        pair(small(0, 9, 1, 9, 0, 0), 1, 1, 1, 1);
+        pair(small(0, 9, 0, 9, 0, 0), 0, 0, 11, 0);
+        EmptyHat owing = small(0, 9, 50, 9, 0, 0);
+        pair(owing, 1, 1, 1, 50);
+        put(owing, 0, 99999, 0, 9, 0, 0);
+        pair(owing, 0, 0, 99999, 0);
 
         Edge.says("Promise 17", "NONE beyond YEAR 999,");
         Edge.due("both(2) in YEAR 997", small(997, 9, 50, 9, 0, 0).both(2), 1);
@@ -555,6 +571,12 @@ final class EdgesOfCalls {
         int[] others = {-1, 4, MAX, MIN};
         for (int what : others) {
             Edge.due("both(" + what + ")", x.both(what), -1);
+        }
+    }
+
+    private static void pair(EmptyHat x, int... due) {
+        for (int what = 0; what < due.length; what++) {
+            Edge.due("both(" + what + ")", x.both(what), due[what]);
         }
     }
 
@@ -635,6 +657,12 @@ final class EdgesOfCalls {
         Edge.due("shows(2), nothing taken", x.shows(2), 0);
         Check.count(x, 1, 0, 40);
         Edge.due("shows(2), east 40", x.shows(2), 5);
+        EmptyHat alike = Check.crowned("need 0 debt 0 rate 0;stores p 9 yields 0;trick a takes 3 from p look 0;"
+            + "trick b takes 3 from p look 0;");
+        Check.count(alike, 0, 0, 6);
+        Edge.due("shows(0), one or the other", alike.shows(0), 2);
+        Edge.due("shows(1), one or the other", alike.shows(1), 0);
+        Edge.due("shows(2), one or the other", alike.shows(2), 3);
 
         Edge.says("Promise 20", "NONE beyond YEAR 999,");
         Edge.due("shows(0) in YEAR 998", small(998, 0, 50, 9, 0, 0).shows(0), 2);
@@ -667,6 +695,7 @@ final class EdgesOfCalls {
         for (char c = 'a'; c < 'g'; c++) {
             b.append("trick ").append(c).append(" takes 1 from p look 0;");
         }
+        Edge.due("where(0) of sixty-four alike", Check.crowned(b.toString()).where(0), 0);
         Edge.due("where(1) of sixty-four alike", Check.crowned(b.toString()).where(1), 64);
 
         Edge.says("Promise 21", "NONE without a SHOW,");

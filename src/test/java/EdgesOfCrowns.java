@@ -164,10 +164,14 @@ final class EdgesOfCrowns {
         Edge.says(I, "(50, 0 without)");
         Edge.due("has(5)", Edge.crownOf(1, HEAD).has(5), 50);
         Edge.due("no boys, a DRAW of 0", boys(TRICK, least), 0);
-        EmptyHat x = Check.crowned(TRICK + "belief 9;boys 100;");
-        Check.crown(x, TRICK);
-        Edge.due("has(5) behind a crown that told it", x.has(5), 50);
-        Edge.due("chance(1) behind a crown that told boys", x.chance(1), 0);
+        EmptyHat x = new EmptyHat();
+        for (int i = 0; i < 3; i++) {
+            Check.crown(x, TRICK + "belief 9;boys 100;");
+            Check.crown(x, HEAD + "belief 9;boys 100;");
+            Check.crown(x, TRICK);
+            Edge.due("has(5) behind a crown that told it", x.has(5), 50);
+            Edge.due("chance(1) behind a crown that told boys", x.chance(1), 0);
+        }
     }
 
     private static int boys(String text, int seed) {
@@ -280,6 +284,9 @@ final class EdgesOfCrowns {
         Edge.due("less 8, 20, 20, 3", x.has(5), 49);
         x.show(1);
         Edge.due("less 5, 10, 20, 6", x.has(5), 8);
+        x = two("sees 50;belief 100;loses look*10;");
+        x.show(1);
+        Edge.due("less 10, of the first TRICK", x.has(5), 90);
     }
 
     private static void values() {
@@ -334,6 +341,15 @@ final class EdgesOfCrowns {
         Check.on(x, Check.imageOf(0, 0, 0, 0, 0, 50, 0, 1, 0, 0, 0, 96, 6));
         Edge.due("show(1)", x.show(1), 1);
         Edge.due("has(5)", x.has(5), 40);
+        for (int i = 0; i < 3; i++) {
+            Check.crown(x, SEEN + "sees 9;loses 9;");
+            Check.crown(x, SEEN + "loses 8;sees 8;");
+            Check.crown(x, SEEN);
+            Edge.due("sight(0, 0) behind crowns that told it", x.sight(0, 0), 4);
+            Check.on(x, Check.imageOf(0, 0, 0, 0, 0, 50, 0, 1, 0, 0, 0, 99, 6));
+            x.show(1);
+            Edge.due("has(5) behind crowns that told loses", x.has(5), 40);
+        }
     }
 
     private static void names() {
@@ -405,6 +421,9 @@ final class EdgesOfCrowns {
         Edge.crownFault(1, HEAD + "sees 1^look;");
         Edge.crownFault(1, HEAD + "sees look^1;");
         Edge.crownFault(1, HEAD + "boys^12345;");
+        // 59 is the byte of ; and 43 that of +, and neither number is a sign.
+        Edge.crownFault(1, HEAD + "sees look^59");
+        Edge.crownFault(1, HEAD + "sees look^43 look;");
         Edge.crownFault(1, "^needdebt 1 rate 1;");
         Edge.crownOf(3, HEAD + "sees(look);loses(1);");
     }

@@ -150,6 +150,12 @@ final class EdgesOfQuestions {
         Edge.asks(x, "total seen 9999", 0);
         Edge.asks(x, "total seen (0-1)", 0);
         Edge.asks(x, "total seen (0-1000*1000)", 0);
+        for (int w = 2; w <= 40; w++) {
+            EmptyHat y = fair();
+            y.show(3);
+            Edge.asks(y, "total seen " + w, 0);
+            Edge.asks(y, "total seen (1-" + w + ")", 0);
+        }
         Edge.asks(x, "total seen number", 20 + 9);
         Edge.asks(x, "total seen 0+1", 61);
         Edge.asks(x, "total seen 1*2", 28);

@@ -182,6 +182,12 @@ final class EdgesOfYears {
         best(101, 3, 100, 17, 60, 9, 40, 8);
         best(200, 3, 30, 17, 10, 8, 20, 9);
         best(1, 0, 0, 0);
+        EmptyHat x = Check.crowned("need 5 debt 0 rate 0;stores p 5 yields 0;stores q 0 yields 0;sees look;"
+            + "trick a takes 5 from p look 9;trick b takes 5 from q look 5;watch w seat 0 glass 0;");
+        Edge.due("best(2)", x.best(2), 9);
+        x.show(1);
+        Edge.due("best(0) when all is gone", x.best(0), 0);
+        Edge.due("best(2) when all is gone", x.best(2), 0);
         Edge.says(II, "of like ones of the least SIGHT;");
         best(200, 6, 100, 7, 60, 5, 40, 4, 60, 3);
         best(200, 2, 100, 4, 100, 5, 100, 4);

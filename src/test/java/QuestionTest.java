@@ -19,68 +19,73 @@ public final class QuestionTest {
         CHECK.due("the tape behind " + text, x.end(1), false);
     }
 
+    /** A new object for each question: after 512 calls its answers are free. */
+    private static EmptyHat fair() {
+        return Check.crowned(Check.FAIR);
+    }
+
     /** Takes 40, 30, 25; look 3, 7, 1; sight 10, 26, 2, all by the first watcher; left 50, 30, 50. */
     private static void answers() {
-        EmptyHat x = Check.crowned(Check.FAIR);
-        asks(x, "first takes<35", 1);
-        asks(x, "last takes<35", 2);
-        asks(x, "first takes>99", -1);
-        asks(x, "last takes>99", -1);
-        asks(x, "first all", 0);
-        asks(x, "last all", 2);
-        asks(x, "often all", 3);
-        asks(x, "often not all", 0);
-        asks(x, "often takes>26 and look<5", 1);
-        asks(x, "often takes=40 or look=1", 2);
-        asks(x, "often takes=40 or takes=30 and look=1", 1);
-        asks(x, "often [takes=40 or takes=30] and look=1", 0);
-        asks(x, "often not takes=40 and look<5", 1);
-        asks(x, "often not [takes=40 and look<5]", 2);
-        asks(x, "often not not takes=40", 1);
-        asks(x, "often takes<40", 2);
-        asks(x, "often takes>30", 1);
-        asks(x, "often 1+takes=(41)", 1);
-        asks(x, " often\nall ", 3);
-        asks(x, "total takes", 95);
-        asks(x, "total number", 3);
-        asks(x, "total look", 11);
-        asks(x, "total times", 0);
-        asks(x, "total known", 0);
-        asks(x, "total sight", 38);
-        asks(x, "total left", 130);
-        asks(x, "total year", 0);
-        asks(x, "total 2", 6);
-        asks(x, "most sight", 26);
-        asks(x, "most takes", 40);
-        asks(x, "least sight", 2);
-        asks(x, "least left", 30);
-        asks(x, "least number", 0);
-        asks(x, "most 0-takes", -25);
-        asks(x, "least takes-30", -5);
-        asks(x, "total seen 0", 38);
-        asks(x, "total seen 1", 0);
-        asks(x, "total seen 2", 0);
-        asks(x, "total seen 9999", 0);
-        asks(x, "total seen (0-1)", 0);
+        asks(fair(), "first takes<35", 1);
+        asks(fair(), "last takes<35", 2);
+        asks(fair(), "first takes>99", -1);
+        asks(fair(), "last takes>99", -1);
+        asks(fair(), "first all", 0);
+        asks(fair(), "last all", 2);
+        asks(fair(), "often all", 3);
+        asks(fair(), "often not all", 0);
+        asks(fair(), "often takes>26 and look<5", 1);
+        asks(fair(), "often takes=40 or look=1", 2);
+        asks(fair(), "often takes=40 or takes=30 and look=1", 1);
+        asks(fair(), "often [takes=40 or takes=30] and look=1", 0);
+        asks(fair(), "often not takes=40 and look<5", 1);
+        asks(fair(), "often not [takes=40 and look<5]", 2);
+        asks(fair(), "often not not takes=40", 1);
+        asks(fair(), "often takes<40", 2);
+        asks(fair(), "often takes>30", 1);
+        asks(fair(), "often 1+takes=(41)", 1);
+        asks(fair(), " often\nall ", 3);
+        asks(fair(), "total takes", 95);
+        asks(fair(), "total number", 3);
+        asks(fair(), "total look", 11);
+        asks(fair(), "total times", 0);
+        asks(fair(), "total known", 0);
+        asks(fair(), "total sight", 38);
+        asks(fair(), "total left", 130);
+        asks(fair(), "total year", 0);
+        asks(fair(), "total 2", 6);
+        asks(fair(), "most sight", 26);
+        asks(fair(), "most takes", 40);
+        asks(fair(), "least sight", 2);
+        asks(fair(), "least left", 30);
+        asks(fair(), "least number", 0);
+        asks(fair(), "most 0-takes", -25);
+        asks(fair(), "least takes-30", -5);
+        asks(fair(), "total seen 0", 38);
+        asks(fair(), "total seen 1", 0);
+        asks(fair(), "total seen 2", 0);
+        asks(fair(), "total seen 9999", 0);
+        asks(fair(), "total seen (0-1)", 0);
         for (int w = 2; w < 45; w++) {
-            asks(x, "total seen " + w, 0);
-            asks(x, "total seen (1-" + w + ")", 0);
+            asks(fair(), "total seen " + w, 0);
+            asks(fair(), "total seen (1-" + w + ")", 0);
         }
-        asks(x, "total seen number", 10);
-        asks(x, "total seen 0+1", 41);
-        asks(x, "total seen seen 1", 38);
-        asks(x, "total seen min(0,1)*2", 76);
-        asks(x, "total takes/7*2", 24);
-        asks(x, "total min(takes,30)+max(look,2)", 97);
+        asks(fair(), "total seen number", 10);
+        asks(fair(), "total seen 0+1", 41);
+        asks(fair(), "total seen seen 1", 38);
+        asks(fair(), "total seen min(0,1)*2", 76);
+        asks(fair(), "total takes/7*2", 24);
+        asks(fair(), "total min(takes,30)+max(look,2)", 97);
         // Each product is bounded, not what is told of all together.
-        asks(x, "total 9999*9999", 3000000);
-        asks(x, "total 0-9999*9999", -3000000);
-        asks(x, "total 9999*9999+1", 3000000);
-        asks(x, "least (0-9999)*9999-1", -1000000);
-        asks(x, "total (0-takes)/0", 0);
-        asks(x, "most (0-takes)/7", -4);
-        asks(x, "least (0-takes)/7", -6);
-        x.image();
+        asks(fair(), "total 9999*9999", 3000000);
+        asks(fair(), "total 0-9999*9999", -3000000);
+        asks(fair(), "total 9999*9999+1", 3000000);
+        asks(fair(), "least (0-9999)*9999-1", -1000000);
+        asks(fair(), "total (0-takes)/0", 0);
+        asks(fair(), "most (0-takes)/7", -4);
+        asks(fair(), "least (0-takes)/7", -6);
+        EmptyHat x = fair();
+        asks(x, "total takes", 95);
         CHECK.due("nothing changes", x.has(10) + x.has(3), 0);
     }
 
@@ -124,7 +129,6 @@ public final class QuestionTest {
     }
 
     private static void faults() {
-        EmptyHat x = Check.crowned(Check.FAIR);
         String[] marked = {"^", "  ^", "^x", "^5", "^takes", "^need 1", "^Total 1", "^totals 1", "total^", "total ^;",
             "total takes^;", "total takes ^takes", "total ^all", "total ^not", "total 1 ^and", "total 1 ^< 2",
             "total 1^]", "total (1^", "total ^)", "total ^dove", "total ^abcdefgh", "total ^seat", "total ^glass",
@@ -136,10 +140,11 @@ public final class QuestionTest {
             "often [all^", "often [all ^)", "often (^all)", "often ^]", "often [^]", "often ^seat=1", "often all^\t",
             "often ^\u00e9"};
         for (String m : marked) {
+            EmptyHat x = fair();
             CHECK.askFault(x, 1, m);
+            CHECK.due("status(1)", x.status(1), 0);
+            asks(x, "often all", 3);
         }
-        CHECK.due("status(1)", x.status(1), 0);
-        asks(x, "often all", 3);
     }
 
     private static void tooDeep() {
